@@ -12,6 +12,7 @@ public final class TossRows {
     private static final int LEAST_PLAYERS = 2, MOST_PLAYERS = 4;
     private static final int MOST_SEEN = 6, MOST_TOSSES = 9999, MOST_AHEAD = 20, MOST_TIMES = 99;
     private static final int DIGEST_AHEAD = 9;
+    private static final int THOUSAND = 1000, MILLION = 1000000;
     private static final int LEAST_RING = 3;
     private static final int LAST_OF_PLAYER = 6, LAST_OF_COUNT = 8;
 
@@ -111,7 +112,7 @@ public final class TossRows {
         if (!isRow(tail)) {
             return OUTSIDE;
         }
-        return doesHit(player, tail) ? 1 : 0;
+        return has(rowsHitBy(player), tail) ? 1 : 0;
     }
 
     // ---- what is done
@@ -316,10 +317,13 @@ public final class TossRows {
     public long digest() {
         long sum = 1297;
         for (int p = 0; p < players; p++) {
-            sum = withPlayer(sum, p);
+            for (int what = 0; what <= LAST_OF_PLAYER; what++) {
+                sum = with(sum, player(p, what));
+            }
+            sum = with(with(sum, answer(p, 0)), answer(p, 1));
+            sum = with(with(sum, odds(p, DIGEST_AHEAD, 0)), odds(p, DIGEST_AHEAD, 1));
         }
-        sum = with(sum, duel(0, 1));
-        sum = with(sum, duel(1, 0));
+        sum = with(with(sum, duel(0, 1)), duel(1, 0));
         if (players > 0) {
             sum = with(sum, ring());
         }
@@ -330,17 +334,6 @@ public final class TossRows {
             sum = with(sum, count(what));
         }
         return sum;
-    }
-
-    private long withPlayer(long sum, int player) {
-        long told = sum;
-        for (int what = 0; what <= LAST_OF_PLAYER; what++) {
-            told = with(told, player(player, what));
-        }
-        told = with(told, answer(player, 0));
-        told = with(told, answer(player, 1));
-        told = with(told, odds(player, DIGEST_AHEAD, 0));
-        return with(told, odds(player, DIGEST_AHEAD, 1));
     }
 
     private static long with(long sum, long number) {
@@ -378,25 +371,19 @@ public final class TossRows {
 
     // ---- hits
 
-    private boolean doesHit(int player, int tail) {
-        return isPlayer(player) && kindAt(now.kind[player]).isHit(now.row[player], tail, size);
-    }
-
     /** The rows, as bits, by which a PLAYER HITS. */
     private int rowsHitBy(int player) {
-        int bits = 0;
-        for (int tail = 0; tail < 1 << size; tail++) {
-            if (doesHit(player, tail)) {
-                bits |= 1 << tail;
-            }
-        }
-        return bits;
+        return isPlayer(player) ? kindAt(now.kind[player]).rowsHitWith(now.row[player], size) : 0;
+    }
+
+    private static boolean has(int bits, int number) {
+        return (bits >> number & 1) == 1;
     }
 
     private int trackBehind(int track, int side) {
         int longer = 2 * track + side;
         int whole = 1 << size;
-        return longer < 2 * whole ? longer : whole + longer % whole;
+        return longer < 2 * whole ? longer : whole + (longer & (whole - 1));
     }
 
     private int tailOf(int track) {
@@ -404,11 +391,15 @@ public final class TossRows {
         return players > 0 && track >= whole ? track - whole : NONE;
     }
 
+    /** Who HITS when a GAME has come to this track, as bits. */
     private int hittersAt(int track) {
         int tail = tailOf(track);
+        if (tail == NONE) {
+            return 0;
+        }
         int bits = 0;
-        for (int p = 0; tail != NONE && p < players; p++) {
-            if (doesHit(p, tail)) {
+        for (int p = 0; p < players; p++) {
+            if (has(rowsHitBy(p), tail)) {
                 bits |= 1 << p;
             }
         }
@@ -417,7 +408,7 @@ public final class TossRows {
 
     private static void addWins(int hitters, int[] won) {
         for (int p = 0; p < won.length; p++) {
-            won[p] += (hitters >> p) & 1;
+            won[p] += has(hitters, p) ? 1 : 0;
         }
     }
 
@@ -441,7 +432,7 @@ public final class TossRows {
         int best = 0;
         int most = -1;
         for (int row = 0; row < 1 << size; row++) {
-            if ((his >> row & 1) == 0) {
+            if (!has(his, row)) {
                 int chance = race.chance(1 << row, his, size);
                 if (chance > most) {
                     most = chance;
@@ -459,7 +450,7 @@ public final class TossRows {
 
     private int bestToOpen() {
         int best = 0;
-        int least = Integer.MAX_VALUE;
+        int least = MILLION + 1;
         for (int row = 0; row < 1 << size; row++) {
             int danger = dangerOf(row);
             if (danger < least) {
@@ -480,8 +471,8 @@ public final class TossRows {
         int bits = 0;
         for (int one = 0; one < players; one++) {
             for (int other = 0; other < one; other++) {
-                int forth = duel(one, other);
-                int back = duel(other, one);
+                int forth = race.chance(rowsHitBy(one), rowsHitBy(other), size);
+                int back = race.chance(rowsHitBy(other), rowsHitBy(one), size);
                 if (forth > back) {
                     bits |= beatBit(one, other);
                 } else if (back > forth) {
@@ -493,8 +484,13 @@ public final class TossRows {
     }
 
     private static boolean isRing(int bits, int beaten) {
-        int first = Integer.numberOfTrailingZeros(bits);
-        return first < MOST_PLAYERS && closes(first, first, bits & ~(1 << first), beaten, 0);
+        for (int first = 0; first < MOST_PLAYERS; first++) {
+            if (has(bits, first)) {
+                // A ring may be told from any of its players on, so one beginning is enough.
+                return closes(first, first, bits & ~(1 << first), beaten, 0);
+            }
+        }
+        return false;
     }
 
     /** Whether a chain that begins with first and has come to last can go through all left, and back to first. */
@@ -506,7 +502,7 @@ public final class TossRows {
             return false;
         }
         for (int p = 0; p < MOST_PLAYERS; p++) {
-            boolean goesOn = (left >> p & 1) == 1 && (beaten & beatBit(last, p)) != 0;
+            boolean goesOn = has(left, p) && (beaten & beatBit(last, p)) != 0;
             if (goesOn && closes(first, p, left & ~(1 << p), beaten, depth + 1)) {
                 return true;
             }
@@ -536,19 +532,23 @@ public final class TossRows {
         return won;
     }
 
+    /** Tosses once more from all ways that have not ended: how many end so that it is his. */
     private int winsByToss(int his, int all) {
         Arrays.fill(waysThen, 0);
         int won = 0;
-        for (int track = 0; track < ways.length; track++) {
-            for (int side = 0; ways[track] != 0 && side < 2; side++) {
+        for (int track = NEW_TRACK; track < ways.length; track++) {
+            if (ways[track] == 0) {
+                continue;
+            }
+            for (int side = 0; side < 2; side++) {
                 int then = trackBehind(track, side);
                 int tail = tailOf(then);
-                if (tail == NONE || (all >> tail & 1) == 0) {
-                    if (then >= 0 && then < waysThen.length) {
-                        waysThen[then] += ways[track];
-                    }
-                } else if ((his >> tail & 1) == 1) {
+                boolean isOver = tail != NONE && has(all, tail);
+                if (isOver && has(his, tail)) {
                     won += ways[track];
+                }
+                if (!isOver && then >= 0 && then < waysThen.length) {
+                    waysThen[then] += ways[track];
                 }
             }
         }
@@ -557,51 +557,47 @@ public final class TossRows {
 
     // ---- which row it can be
 
-    private boolean canHaveBetOn(int player, int row) {
-        Plain kind = kindAt(now.kind[player]);
-        for (int i = 0; i < now.seen && i < MOST_SEEN; i++) {
-            if (now.seenPlayer[i] == player && kind.isHit(row, now.seenTail[i], size) != now.seenHit[i]) {
-                return false;
-            }
-        }
-        return true;
-    }
-
-    private int rowsLeft(int player) {
+    /** The ROWS, as bits, with which one of a KIND HITS by a TAIL. */
+    private int betsThatHit(Plain kind, int tail) {
         int bits = 0;
         for (int row = 0; row < 1 << size; row++) {
-            if (canHaveBetOn(player, row)) {
+            if (has(kind.rowsHitWith(row, size), tail)) {
                 bits |= 1 << row;
             }
         }
         return bits;
     }
 
+    private int rowsLeft(int player) {
+        Plain kind = kindAt(now.kind[player]);
+        int left = (1 << (1 << size)) - 1;
+        for (int i = 0; i < now.seen && i < MOST_SEEN; i++) {
+            if (now.seenPlayer[i] == player) {
+                int hitting = betsThatHit(kind, now.seenTail[i]);
+                left &= now.seenHit[i] ? hitting : ~hitting;
+            }
+        }
+        return left;
+    }
+
     private int nextTry(int player) {
-        int rows = rowsLeft(player);
-        if (rows == 0) {
+        int left = rowsLeft(player);
+        if (left == 0) {
             return NONE;
         }
+        Plain kind = kindAt(now.kind[player]);
+        int many = Integer.bitCount(left);
         int best = 0;
-        int fewest = Integer.MAX_VALUE;
+        int fewest = many + 1;
         for (int tail = 0; tail < 1 << size; tail++) {
-            int left = leftAtWorst(kindAt(now.kind[player]), rows, tail);
-            if (left < fewest) {
-                fewest = left;
+            int hitting = Integer.bitCount(left & betsThatHit(kind, tail));
+            int atWorst = Math.max(hitting, many - hitting);
+            if (atWorst < fewest) {
+                fewest = atWorst;
                 best = tail;
             }
         }
         return best;
-    }
-
-    private int leftAtWorst(Plain kind, int rows, int tail) {
-        int hitting = 0;
-        for (int row = 0; row < 1 << size; row++) {
-            if ((rows >> row & 1) == 1 && kind.isHit(row, tail, size)) {
-                hitting++;
-            }
-        }
-        return Math.max(hitting, Integer.bitCount(rows) - hitting);
     }
 
     // ---- rows read otherwise
@@ -618,38 +614,34 @@ public final class TossRows {
         return row ^ ((1 << size) - 1);
     }
 
-    /** A KIND: how one who bet on a row hears a tail. All kinds are players, so the plain one is above them all. */
+    /** A KIND: by which rows one who bet on a row HITS, as bits. All are players, so the plain one is above them all. */
     private static class Plain {
-        boolean isHit(int row, int tail, int size) {
-            return tail == row;
+        int rowsHitWith(int row, int size) {
+            return 1 << row;
         }
     }
 
     private static final class Mirror extends Plain {
-        @Override
-        boolean isHit(int row, int tail, int size) {
-            return tail == fromItsEnd(row, size);
+        int rowsHitWith(int row, int size) {
+            return 1 << fromItsEnd(row, size);
         }
     }
 
     private static final class Other extends Plain {
-        @Override
-        boolean isHit(int row, int tail, int size) {
-            return tail == withOtherSigns(row, size);
+        int rowsHitWith(int row, int size) {
+            return 1 << withOtherSigns(row, size);
         }
     }
 
     private static class Either extends Plain {
-        @Override
-        boolean isHit(int row, int tail, int size) {
-            return tail == row || tail == withOtherSigns(row, size);
+        int rowsHitWith(int row, int size) {
+            return 1 << row | 1 << withOtherSigns(row, size);
         }
     }
 
     private static final class Both extends Either {
-        @Override
-        boolean isHit(int row, int tail, int size) {
-            return super.isHit(row, tail, size) || tail == fromItsEnd(row, size);
+        int rowsHitWith(int row, int size) {
+            return super.rowsHitWith(row, size) | 1 << fromItsEnd(row, size);
         }
     }
 
@@ -702,7 +694,7 @@ public final class TossRows {
 
         /** How many PLAYERS the TABLE has that the letters are; 0, if they are none. */
         int playersOfTable() {
-            if (length == 0 || firstWrong() < length) {
+            if (size() == 0 || firstWrong() < length) {
                 return 0;
             }
             // With one ',' more behind the last player, all players would have as many letters.
@@ -727,18 +719,18 @@ public final class TossRows {
             return AHEAD_OF_PLAYERS + player * step();
         }
 
-        /** How many letters a player has: the kind, the row, the ','. Never 0. */
+        /** How many letters a player has, with the ',' behind him; never 0, for it divides. */
         private int step() {
             return size() + 2;
         }
 
         /** Whether a TABLE can have this letter there, if those ahead of it can stand. */
         private boolean canStand(int place) {
-            if (place == 0) {
-                return size() > 0;
+            if (size() == 0) {
+                return false;
             }
-            if (place == 1) {
-                return at(place) == ';';
+            if (place < AHEAD_OF_PLAYERS) {
+                return place == 0 || at(place) == ';';
             }
             int player = (place - AHEAD_OF_PLAYERS) / step();
             int within = (place - AHEAD_OF_PLAYERS) % step();
@@ -831,14 +823,14 @@ public final class TossRows {
         int waitFor(int bits, int size) {
             long whole = run(bits, size);
             long shares = sharesOf(bits);
-            return shares == 0 ? 0 : (int) (1000 * whole / shares);
+            return shares == 0 ? 0 : (int) (THOUSAND * whole / shares);
         }
 
         /** DUEL of one and another, by the rows (bits) that each HITS by, in millionths. */
         int chance(int one, int other, int size) {
             run(one | other, size);
             long shares = sharesOf(one | other);
-            return shares == 0 ? 0 : (int) (1000000 * sharesOf(one) / shares);
+            return shares == 0 ? 0 : (int) (MILLION * sharesOf(one) / shares);
         }
 
         /**
@@ -876,7 +868,7 @@ public final class TossRows {
         private void setRows(int bits, int size) {
             many = 0;
             for (int row = 0; row < 1 << size && many < MOST; row++) {
-                if ((bits >> row & 1) == 1) {
+                if (has(bits, row)) {
                     rows[many] = row;
                     many++;
                 }
@@ -907,7 +899,7 @@ public final class TossRows {
         private long sharesOf(int bits) {
             long all = 0;
             for (int i = 0; i < many; i++) {
-                if ((bits >> rows[i] & 1) == 1) {
+                if (has(bits, rows[i])) {
                     all += sums[i][many];
                 }
             }
