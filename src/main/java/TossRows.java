@@ -834,8 +834,9 @@ public final class TossRows {
         }
 
         /**
-         * Solves the sums for an average of one toss, by eliminating without fractions: each chance is then its share,
-         * the last of its line, by the answer. An average of one is not so, but all is in proportion.
+         * Solves the sums as if the average were one toss, by eliminating without fractions: the last of each line, by
+         * the answer, would be the row's chance. Those chances do not sum up to 1, but to 1 by the true average; so a
+         * true chance is a line's share of all lines' last numbers, and the true average is the answer by their sum.
          */
         private long run(int bits, int size) {
             setRows(bits, size);
@@ -843,7 +844,7 @@ public final class TossRows {
             long before = 1;
             for (int k = 0; k < many; k++) {
                 long pivot = sums[k][k];
-                // Some rows' overlaps never depend on one another, so this is for the divisor's sake.
+                // For different rows it is never 0; but it divides next, so it is looked at.
                 if (before == 0 || pivot == 0) {
                     return 0;
                 }
