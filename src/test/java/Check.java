@@ -3,21 +3,27 @@ final class Check {
     static final int PLAIN = 0, MIRROR = 1, OTHER = 2, EITHER = 3, BOTH = 4;
 
     private static int wrong = 0;
+    private static String sentence = "";
 
     private Check() {
+    }
+
+    /** From here on the calls are tested for these words of the document: they are told ahead of what is wrong. */
+    static void sentence(String words) {
+        sentence = "\"" + words + "\": ";
     }
 
     static void due(String call, long got, long want) {
         if (got != want) {
             wrong++;
-            System.out.println(call + " answered " + got + ", due is " + want);
+            System.out.println(sentence + call + " answered " + got + ", due is " + want);
         }
     }
 
     static void holds(String what, boolean so) {
         if (!so) {
             wrong++;
-            System.out.println("not so: " + what);
+            System.out.println(sentence + "not so: " + what);
         }
     }
 

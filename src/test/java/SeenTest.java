@@ -1,5 +1,3 @@
-import java.math.BigInteger;
-
 /** Promises 18 to 20: see, forget, games. */
 public final class SeenTest {
     public static void main(String[] args) {
@@ -67,24 +65,24 @@ public final class SeenTest {
         x.games(99, 12345, 1);
         Check.due("games change nothing", x.digest(), before);
         TossRows same = Check.withTable("2;ptt,ehh,eht,btt");
-        Check.due("of like ones the least", same.games(2, firstSeedFor("hh"), 1), 1);
-        Check.due("only one", same.games(2, firstSeedFor("ht"), 1), 2);
-        Check.due("three of four", same.games(2, firstSeedFor("tt"), 1), 0);
-        Check.due("most", same.games(6, firstSeedFor("tthhth"), 1), 1);
-        Check.due("most of another", same.games(6, firstSeedFor("htthtt"), 1), 2);
+        Check.due("of like ones the least", same.games(2, Draws.firstSeedFor("hh"), 1), 1);
+        Check.due("only one", same.games(2, Draws.firstSeedFor("ht"), 1), 2);
+        Check.due("three of four", same.games(2, Draws.firstSeedFor("tt"), 1), 0);
+        Check.due("most", same.games(6, Draws.firstSeedFor("tthhth"), 1), 1);
+        Check.due("most of another", same.games(6, Draws.firstSeedFor("htthtt"), 1), 2);
     }
 
     private static void gamesFromThisGameOn() {
         TossRows x = Check.withTable("3;phht,pttt");
         Check.tossAll(x, "hh");
-        Check.due("hht by one more", x.games(1, firstSeedFor("t"), 0), 1);
-        Check.due("hhh is none", x.games(1, firstSeedFor("h"), 0), 0);
-        Check.due("not overlapping", x.games(3, firstSeedFor("ttt"), 0), 1);
+        Check.due("hht by one more", x.games(1, Draws.firstSeedFor("t"), 0), 1);
+        Check.due("hhh is none", x.games(1, Draws.firstSeedFor("h"), 0), 0);
+        Check.due("not overlapping", x.games(3, Draws.firstSeedFor("ttt"), 0), 1);
         Check.due("this game is as it was", x.count(2), 2);
         x.toss(1);
         x.toss(1);
         x.toss(1);
-        Check.due("won before does not count", x.games(1, firstSeedFor("t"), 1), 1);
+        Check.due("won before does not count", x.games(1, Draws.firstSeedFor("t"), 1), 1);
     }
 
     private static void gamesByTheSeed() {
@@ -93,7 +91,7 @@ public final class SeenTest {
         for (int seed : seeds) {
             int then = seed;
             for (int times = 1; times <= 5; times++) {
-                then = next(then);
+                then = Draws.next(then);
                 Check.due("seed " + seed + " then " + times, x.games(times, seed, 2), then);
             }
         }
@@ -109,27 +107,5 @@ public final class SeenTest {
         Check.due("seed -1", x.games(1, -1, 0), TossRows.OUTSIDE);
         Check.due("what 3", x.games(1, 1, 3), TossRows.OUTSIDE);
         Check.due("what -1", x.games(1, 1, -1), TossRows.OUTSIDE);
-    }
-
-    private static int next(int seed) {
-        BigInteger product = BigInteger.valueOf(1103515245).multiply(BigInteger.valueOf(seed));
-        return product.add(BigInteger.valueOf(12345)).mod(BigInteger.TWO.pow(31)).intValueExact();
-    }
-
-    /** The least seed by which these sides are drawn. */
-    private static int firstSeedFor(String sides) {
-        for (int seed = 0; ; seed++) {
-            int then = seed;
-            int fits = 0;
-            for (; fits < sides.length(); fits++) {
-                then = next(then);
-                if ((then / 65536 % 2 == 1) != (sides.charAt(fits) == 't')) {
-                    break;
-                }
-            }
-            if (fits == sides.length()) {
-                return seed;
-            }
-        }
     }
 }
