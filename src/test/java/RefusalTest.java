@@ -51,6 +51,15 @@ public final class RefusalTest {
         return x;
     }
 
+    /** As many tosses as there can be; no run of 512 calls comes so far, but the document tells it. */
+    private static TossRows tossedMost() {
+        TossRows x = amidst();
+        while (x.count(3) < 9999) {
+            x.toss(x.count(3) % 2);
+        }
+        return x;
+    }
+
     private static TossRows withoutTable() {
         TossRows x = new TossRows();
         Check.write(x, "3;phhh,p");
@@ -109,6 +118,8 @@ public final class RefusalTest {
     private static void tossesAndGames() {
         amidst("toss -1", x -> x.toss(-1), OUTSIDE);
         amidst("toss 2", x -> x.toss(2), OUTSIDE);
+        refused("toss behind 9999", RefusalTest::tossedMost, x -> x.toss(0), FULL);
+        refused("toss 2 behind 9999", RefusalTest::tossedMost, x -> x.toss(2), OUTSIDE);
         amidst("odds by 0", x -> x.odds(0, 0, 0), OUTSIDE);
         amidst("odds by 21", x -> x.odds(0, 21, 0), OUTSIDE);
         amidst("games of 0", x -> x.games(0, 0, 0), OUTSIDE);
